@@ -285,6 +285,12 @@ public final class CuesTest {
     Expect.same("11 waits", hard.level(0, 0), 0);
     hard.pass(1);
     Expect.same("11 no fade", hard.level(0, 0), 80);
+    LightDesk shortest = deskWithCue(1, 1, 0, 80);
+    shortest.go(0, 0);
+    shortest.pass(1);
+    Expect.same("11 its fade begins", shortest.level(0, 0), 0);
+    shortest.pass(1);
+    Expect.same("11 its fade is over", shortest.level(0, 0), 80);
     LightDesk longest = deskWithCue(100, 100, 0, 100);
     longest.go(0, 0);
     longest.pass(199);

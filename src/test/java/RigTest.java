@@ -100,6 +100,25 @@ public final class RigTest {
     Expect.same("3 undone", desk.undo(), 2);
     Expect.same("3 the first kind", desk.light(0), 1000);
     Expect.same("3 still hangs there", desk.hang(0, 0, 5), 0);
+    swapAmongTwenty();
+  }
+
+  private static void swapAmongTwenty() {
+    LightDesk desk = litDesk();
+    for (int lamp = 1; lamp < 20; lamp++) {
+      desk.addLamp(1, 0);
+    }
+    desk.hang(0, 19, 0);
+    desk.swap(19, 5, 0);
+    desk.swap(0, 20, 0);
+    desk.swap(5, 20, 0);
+    Expect.same("3 each lamp its own", desk.light(0), 2500);
+    Expect.same("3 undo lamp 5", desk.undo(), 5);
+    Expect.same("3 lamp 5 hangs on none", desk.light(0), 2500);
+    Expect.same("3 undo lamp 0", desk.undo(), 4);
+    Expect.same("3 lamp 0 as before", desk.light(0), 1500);
+    Expect.same("3 undo lamp 19", desk.undo(), 3);
+    Expect.same("3 lamp 19 as before", desk.light(0), 1100);
   }
 
   private static void promise3WrongSwaps() {
