@@ -24,6 +24,11 @@ public final class RulesTest {
     Expect.same("6 each throw makes its own", count(code, "\\bthrow\\b"), count(code,
         "throw new Illegal(Argument|State)Exception\\( *\\);|throw new IndexOutOfBoundsException\\( *\\);"));
     Expect.same("6 no equals", count(code, "\\b(equals|hashCode|toString)\\b"), 0);
+    Expect.same("7 one divisor is no number", count(code, "[/%] *[A-Za-z(]"), 1);
+    Expect.same("7 it is the fade", count(code, "/ fade\\b"), 1);
+    Expect.same("7 it is looked at", count(code, "if \\(fade <= 0 "), 1);
+    Expect.same("12 rows are made in constructors alone", count(code, "\\bnew\\b"), count(code,
+        "\\bthrow new\\b|\\bprivate final [\\w\\[\\]]+ \\w+ = new\\b"));
     Expect.same("11 few classes", count(code, "\\b(class|record|enum|interface)\\b") <= 12, true);
     Expect.end("RulesTest");
   }
