@@ -106,7 +106,8 @@ public final class LightDesk {
     if (history.isEmpty()) {
       throw new IllegalStateException("nothing can be undone");
     }
-    takeBack(history.takeLast());
+    takeBackLast();
+    history.dropLast();
     return history.size();
   }
 
@@ -204,7 +205,7 @@ public final class LightDesk {
   private int mergedNow(int channel) {
     int level0 = list0.levelNow(channel);
     int level1 = list1.levelNow(channel);
-    if (latestCounts[channel]) {
+    if (isChannel(channel) && latestCounts[channel]) {
       return latestList[channel] == 0 ? level0 : level1;
     }
     return Math.max(level0, level1);
@@ -239,16 +240,20 @@ public final class LightDesk {
     return cues.endsInNextTenth() ? beginFrom(list, cues.follower()) : 0;
   }
 
-  private void takeBack(int[] change) {
-    switch (change[0]) {
+  private void takeBackLast() {
+    int a = history.lastPart(1);
+    int b = history.lastPart(2);
+    int c = history.lastPart(3);
+    int d = history.lastPart(4);
+    switch (history.lastPart(0)) {
       case SWAPPED:
-        rigs.setKind(change[1], change[2], change[3]);
+        rigs.setKind(a, b, c);
         break;
       case HUNG:
-        rigs.setChannel(change[1], change[2], change[3]);
+        rigs.setChannel(a, b, c);
         break;
       default:
-        cuesOf(change[1]).tell(change[2], change[3], change[4]);
+        cuesOf(a).tell(b, c, d);
         break;
     }
   }
@@ -280,14 +285,22 @@ public final class LightDesk {
     }
   }
 
+  private static boolean isNight(int night) {
+    return night >= 0 && night < NIGHTS;
+  }
+
+  private static boolean isChannel(int channel) {
+    return channel >= 0 && channel < CHANNELS;
+  }
+
   private static void needNight(int night) throws IllegalArgumentException {
-    if (night < 0 || night >= NIGHTS) {
+    if (!isNight(night)) {
       throw new IllegalArgumentException("a night is 0 to 3");
     }
   }
 
   private static void needChannel(int channel) throws IllegalArgumentException {
-    if (channel < 0 || channel >= CHANNELS) {
+    if (!isChannel(channel)) {
       throw new IllegalArgumentException("a channel is 0 to 11");
     }
   }
@@ -338,10 +351,10 @@ public final class LightDesk {
     }
 
     int add(int power, int gel) {
-      if (isFull()) {
+      int lamp = lamps;
+      if (lamp < 0 || lamp >= LAMPS) {
         return NONE;
       }
-      int lamp = lamps;
       lamps++;
       setKind(lamp, power, gel);
       return lamp;
@@ -390,10 +403,6 @@ public final class LightDesk {
     static int shineOfKind(int power, int gel, int level) {
       return power * level * (100 - 5 * gel) / 100;
     }
-
-    private static boolean isNight(int night) {
-      return night >= 0 && night < NIGHTS;
-    }
   }
 
   /** A list of cues, the one that was begun last, and the levels it leads from and to. */
@@ -429,10 +438,10 @@ public final class LightDesk {
     }
 
     int add(int delay, int fade, boolean follows) {
-      if (isFull()) {
+      int cue = cues;
+      if (cue < 0 || cue >= CUES) {
         return NONE;
       }
-      int cue = cues;
       cues++;
       delays[cue] = delay;
       fades[cue] = fade;
@@ -512,16 +521,13 @@ public final class LightDesk {
       int next = begun + 1;
       return has(begun) && has(next) && follow[next] ? next : NONE;
     }
-
-    private static boolean isChannel(int channel) {
-      return channel >= 0 && channel < CHANNELS;
-    }
   }
 
   /** The last changes that can be undone, the oldest overwritten when there are too many. */
   private static final class History {
+    private static final int PARTS = 5;
     // Each row: the kind, then what it takes to set the old state again.
-    private final int[][] changes = new int[UNDOS][5];
+    private final int[][] changes = new int[UNDOS][PARTS];
     private int next;
     private int size;
 
@@ -534,20 +540,38 @@ public final class LightDesk {
     }
 
     void note(int kind, int a, int b, int c, int d) {
-      int[] change = changes[next];
-      change[0] = kind;
-      change[1] = a;
-      change[2] = b;
-      change[3] = c;
-      change[4] = d;
+      put(0, kind);
+      put(1, a);
+      put(2, b);
+      put(3, c);
+      put(4, d);
       next = next + 1 < UNDOS ? next + 1 : 0;
       size = Math.min(size + 1, UNDOS);
     }
 
-    int[] takeLast() {
-      next = next > 0 ? next - 1 : UNDOS - 1;
+    /** A part of the last change, by its place in the call of note. */
+    int lastPart(int part) {
+      int last = lastRow();
+      return isPlace(last, part) ? changes[last][part] : NONE;
+    }
+
+    void dropLast() {
+      next = lastRow();
       size = Math.max(size - 1, 0);
-      return changes[next];
+    }
+
+    private int lastRow() {
+      return next > 0 ? next - 1 : UNDOS - 1;
+    }
+
+    private void put(int part, int value) {
+      if (isPlace(next, part)) {
+        changes[next][part] = value;
+      }
+    }
+
+    private static boolean isPlace(int row, int part) {
+      return row >= 0 && row < UNDOS && part >= 0 && part < PARTS;
     }
   }
 }
